@@ -2,6 +2,7 @@
 public final class AskTest {
     public static void main(String[] args) {
         anew();
+        muchTold();
         intrusion();
         windows();
         wrongWindows();
@@ -47,6 +48,25 @@ public final class AskTest {
         Check.due("the permit is as before", 15, () -> x.permit(0, 0));
     }
 
+    private static void muchTold() {
+        Saltwedge x = new Saltwedge();
+        x.section(1, 0, 0, 0);
+        for (int i = 0; i < 508; i++) {
+            x.river(9, 2);
+        }
+        x.river(5, 8);
+        x.pass(1);
+        Check.due("the 512th call", 5, () -> x.ofSectionAnew(0, 0));
+        Saltwedge y = new Saltwedge();
+        y.section(1, 0, 0, 7);
+        for (int i = 0; i < 508; i++) {
+            y.permit(0, i);
+        }
+        y.permit(0, 5);
+        y.dredge(0, 4, Saltwedge.NONE);
+        Check.due("dredged by the 511th call", 3, () -> y.ofSectionAnew(0, 5));
+    }
+
     private static void bothSame(String name, Saltwedge x) {
         for (int k = 0; k < 2; k++) {
             for (int what = 0; what < 10; what++) {
@@ -81,6 +101,12 @@ public final class AskTest {
         y.section(1, 0, 0, 0);
         y.pass(1);
         Check.due("all sections", 1, () -> y.intrusion(30));
+        Saltwedge z = new Saltwedge();
+        for (int i = 0; i < 8; i++) {
+            z.section(10, 0, 0, 0);
+        }
+        z.pass(48);
+        Check.due("all of eight sections", 8, () -> z.intrusion(30));
     }
 
     private static void windows() {

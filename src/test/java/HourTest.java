@@ -12,6 +12,7 @@ public final class HourTest {
         creeping();
         mixing();
         lifting();
+        leastWater();
         largeNumbers();
         Check.end();
     }
@@ -269,6 +270,33 @@ public final class HourTest {
         y.pass(1);
         row("all mud is lifted, 0", y, 0, 0, 0, 300, 0, 3, 0, 75, 0, 0, 100);
         row("all mud is lifted, 1", y, 1, 0, 0, 100, 0, 2, 0, 25, 0, 0, 100);
+    }
+
+    private static void leastWater() {
+        Saltwedge x = new Saltwedge();
+        x.mean(0);
+        x.section(1, 1, 9, 0);
+        x.section(1, 0, 0, 10);
+        x.permit(1, 7);
+        x.dredge(1, 7, 0);
+        // 5 would leave, UP has 1, with all of the cloud; then level 9 and 3: 1 of LOW flows
+        x.pass(1);
+        row("all of 1, 0", x, 0, 0, 0, 8, 0, 0, 0, 8, 0, 0, 1);
+        row("all of 1, 1", x, 1, 0, 0, 1, 0, 0, 3, 4, 0, 0, 1);
+        Check.due("sum(8)", 7, () -> x.sum(8));
+        Saltwedge y = new Saltwedge();
+        y.mean(3);
+        y.section(1, 0, 0, 0);
+        y.pass(1);
+        row("the salinity of 1", y, 0, 0, 0, 1, 30, 0, 0, 1, 0, 30, 0);
+        Saltwedge z = new Saltwedge();
+        z.mean(82);
+        z.section(4, 4, 300, 0);
+        z.section(4, 0, 236, 0);
+        // 12 come in with 360; level 79 and 59: 20 flow with 360 * 20 / 312; m is 1, s is 337 / 292
+        z.pass(1);
+        row("1 of SALT is mixed, 0", z, 0, 4, 1, 292, 336, 0, 0, 74, 0, 1, 20);
+        row("1 of SALT is mixed, 1", z, 1, 0, 0, 256, 23, 0, 0, 64, 0, 0, 20);
     }
 
     private static void largeNumbers() {

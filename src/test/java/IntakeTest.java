@@ -59,6 +59,7 @@ public final class IntakeTest {
         x.pass(1);
         row("the room again", x, 0, 23, 44, 0, 0, 0);
         Check.due("what is left of UP", 6, () -> x.ofSection(0, 0));
+        Check.due("the same anew", 6, () -> x.ofSectionAnew(0, 0));
         x.pass(1);
         row("all of UP", x, 0, 22, 50, 0, 0, 0);
         x.pass(1);
@@ -130,6 +131,24 @@ public final class IntakeTest {
         Check.due("but no CLOUD", 3, () -> y.ofSection(0, 4));
         Check.due("half of it settled", 13, () -> y.ofSection(0, 5));
         row("a full intake whose use empties it", y, 0, 0, 4, 0, 0, 0);
+        Saltwedge z = new Saltwedge();
+        z.barrier(0, 0);
+        z.section(1, 10, 0, 0);
+        z.section(1, 20, 0, 0);
+        z.intake(1, 5, 0, 10, 0);
+        // 10 * 1 / 4 flow down ahead
+        z.pass(1);
+        Check.due("UP of another section", 12, () -> z.ofSection(0, 0));
+        Check.due("UP at the intake", 13, () -> z.ofSection(1, 0));
+        Check.due("UP of another section anew", 12, () -> z.ofSectionAnew(0, 0));
+        Check.due("UP at the intake anew", 13, () -> z.ofSectionAnew(1, 0));
+        Saltwedge u = new Saltwedge();
+        u.barrier(0, 0);
+        u.section(1, 0, 0, 0);
+        u.river(1, 0);
+        u.intake(0, 5, 0, 10, 0);
+        u.pass(1);
+        row("1 of WATER is taken", u, 0, 1, 1, 0, 0, 0);
     }
 
     private static void salt() {
