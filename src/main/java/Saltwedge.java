@@ -817,9 +817,9 @@ public final class Saltwedge {
 
         void goOnTo(int hour) {
             int end = Math.min(hour, MOST_HOURS);
-            while (now < end) {
+            for (int next = now; next < end; next++) {
                 letHourGoBy();
-                now++;
+                now = next + 1;
             }
         }
 

@@ -5,6 +5,13 @@ public final class LaterTest {
     private static long seed = 5;
 
     public static void main(String[] args) {
+        Check.under("What it is");
+        Check.sentence("An object is used for at most 512 calls after it has been made; what later calls answer is"
+                + " free.", LaterTest::longRuns);
+        Check.end();
+    }
+
+    private static void longRuns() {
         for (int round = 0; round < 40; round++) {
             Saltwedge x = new Saltwedge();
             int wild = 2 + round % 9;
@@ -12,7 +19,6 @@ public final class LaterTest {
                 call(x, below(23), wild);
             }
         }
-        Check.end();
     }
 
     private static int below(int bound) {
