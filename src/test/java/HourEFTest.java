@@ -33,6 +33,10 @@ public final class HourEFTest {
                 .row("ofSection", 1, 40, 150, 20, 450, 0, 0, 15, 3, 22, 20);
         twoOfFour(4).row("ofSection", 0, 40, 0, 61, 1830, 0, 0, 25, 0, 30, 19)
                 .row("ofSection", 1, 40, 0, 19, 570, 0, 4, 15, 0, 30, 19);
+        // a RUN of 21: 62 come with 1860; m is 10, and s 1230 * 10 / 41; 4, and 630 * 4 / 21
+        Trial above = new Trial().tell("mean", 41).tell("section", 4, 40, 0, 0).tell("section", 4, 16, 0, 0);
+        above.tell("pass", 1).row("ofSection", 0, 40, 300, 41, 930).row("ofSection", 1, 16, 120, 21, 510);
+        above.due(21, "ofSection", 0, 9).due(21, "ofSection", 1, 9);
         // 80 come: 15 of 80 flow with 450, 5 of 65 creep with 150; then 5 of 40 flow with 75, and 1 of 35 creeps with
         // 15: the RUNS are 15, 20 and 5, and just the one between mixes, 510 * 8 / 34
         Trial x = new Trial().tell("section", 4, 40, 0, 0).tell("section", 4, 40, 20, 0).tell("section", 4, 12, 40, 0);

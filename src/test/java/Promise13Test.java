@@ -55,5 +55,13 @@ public final class Promise13Test {
         new Trial().hours(999).state("pass", 2).state("pass", 48).due(999, "now").due(1000, "pass", 1);
         Trial x = new Trial().tell("section", 1, 0, 0, 0).tell("river", 1, 0).hours(1000).due(1000, "now");
         x.state("pass", 1).state("pass", 48).due(1000, "now").due(1000, "sum", 2);
+        // all but SECTIONS can be told at the last hour, and asked
+        Trial end = new Trial().tell("section", 1, 0, 50, 9).tell("section", 1, 0, 50, 9).hours(1000);
+        end.due(0, "turn", 2, 1, 20, 1).due(50, "mean", 10).due(1, "surge", 1000, 1000, 3).seas(999, 50, 33, 10, 30);
+        end.due(0, "river", 5, 5).due(Saltwedge.NONE, "barrier", 20, 0).due(0, "closures").due(5, "river", 0, 0);
+        end.due(0, "intake", 0, 1, 0, 1, 0).row("ofIntake", 0, 0, 0, 0, 0, 0).due(0, "oysters", 0, 0, 24);
+        end.due(0, "isClosed", 0).due(0, "permit", 0, 9).due(5, "dredge", 0, 4, 1).due(5, "ofSection", 0, 5);
+        end.due(5, "ofSectionAnew", 0, 5).due(4, "ofSectionAnew", 1, 4).state("section", 1, 0, 0, 0);
+        end.due(1000, "window", 28, 1).due(Saltwedge.NONE, "window", 29, 1).due(0, "intrusion", 1);
     }
 }
