@@ -334,13 +334,12 @@ public final class Saltwedge {
         return (int) ((long) stuff * flow / water);
     }
 
-    /** Keeps what is told, and lets it hold. */
+    /** Kept as well as heard, since ofSectionAnew tells all of it once more. */
     private void tell(int kind, int a, int b, int c, int d, int e) {
         told.keep(live.now, kind, a, b, c, d, e);
         live.hear(kind, a, b, c, d, e);
     }
 
-    /** One of the two layers of a section. */
     private static final class Layer {
         int water;
         int salt;
@@ -358,7 +357,7 @@ public final class Saltwedge {
             return goesWith(flow, salt, water);
         }
 
-        /** Lets water flow out; answers the salt that goes with it. */
+        /** Answers the salt that goes with the water, as both go on to somewhere else. */
         int giveOut(int flow) {
             int gone = goesWith(flow, salt, water);
             water -= flow;
@@ -401,7 +400,7 @@ public final class Saltwedge {
             return area <= 0 ? 0 : bed() + (up.water + low.water) / area;
         }
 
-        /** Lets the cloud go that goes with a flow out of UP; to be asked ahead of the flow itself. */
+        /** To be asked ahead of the flow out of UP: the share is that of the water there was before it. */
         int giveCloud(int flow) {
             int gone = goesWith(flow, cloud, up.water);
             cloud -= gone;
@@ -418,7 +417,6 @@ public final class Saltwedge {
             return mud < amount ? 3 : 0;
         }
 
-        /** The salt that a strong run lifts from LOW to UP. */
         void mix() {
             if (run < 20) {
                 return;
@@ -447,8 +445,8 @@ public final class Saltwedge {
             lowAtEnd[Math.floorMod(hour, OYSTER_HOURS)] = low.salinity();
         }
 
-        /** Whether LOW was below a grain at the end of one of the last hours ahead of now. */
         boolean wasFresher(int grain, int hours, int now) {
+            // Fewer hours may have gone by than are asked for.
             for (int hour = Math.max(0, now - hours); hour < now; hour++) {
                 if (lowAtEnd[Math.floorMod(hour, OYSTER_HOURS)] < grain) {
                     return true;
@@ -541,7 +539,6 @@ public final class Saltwedge {
             surgeCount++;
         }
 
-        /** The sea of an hour by what is told now. */
         int foretold(int hour) {
             int height = mean;
             for (int i = 0; i < turnCount; i++) {
@@ -836,7 +833,7 @@ public final class Saltwedge {
                 meetRiver(sections[sectionCount - 1]);
             }
             for (int k = 0; k + 1 < sectionCount; k++) {
-                level(sections[k], sections[k + 1]);
+                flowByLevels(sections[k], sections[k + 1]);
                 creep(sections[k], sections[k + 1]);
             }
             for (int k = 0; k < sectionCount; k++) {
@@ -872,8 +869,7 @@ public final class Saltwedge {
             sums[SUM_SILT] += riverSilt;
         }
 
-        /** The flow between two neighbours by their levels. */
-        void level(Section near, Section far) {
+        void flowByLevels(Section near, Section far) {
             int d = near.level() - far.level();
             int area = Math.min(near.area, far.area);
             int flow = 0;
@@ -888,7 +884,6 @@ public final class Saltwedge {
             far.run += flow;
         }
 
-        /** The exchange by which saltier water creeps in below, and fresher water goes out above. */
         void creep(Section near, Section far) {
             if (near.low.salinity() > far.low.salinity()) {
                 int c = Math.min(near.low.water, far.up.water) / 8;
